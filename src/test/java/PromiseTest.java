@@ -245,6 +245,17 @@ public final class PromiseTest {
         is.due("lay: draughts", x.door(0, 4), 0);
         x.oil(0);
         is.due("lay: oil", x.door(0, 3), 2);
+        for (int k = 0; k < 10; k++) {
+            x.go(0, 0, true);
+        }
+        x.go(0, 0, false);
+        is.due("lay: wear", x.grudge(0, 0), 9);
+        x.wipe();
+        Checks.tell(x, "d0,1,1;d1,2,1;l0,1,0;g0,0,10;");
+        x.lay();
+        x.night(1);
+        is.due("lay: passing and fading", x.grudge(0, 0), 6);
+        is.due("lay: passing and fading", x.grudge(1, 0), 2);
     }
 
     // Promise 6
@@ -544,6 +555,7 @@ public final class PromiseTest {
         is.due("inTime: fewest", f.inTime(0, 2), 4);
         is.due("inTime: of fewest the lowest", f.inTime(0, 11), 1);
         is.due("inTime: 600", f.inTime(0, 600), 0);
+        is.due("inTime: all doors", house("d0,1,0;l0,5,1;g0,0,1;").inTime(0, 1), 1);
         for (int k : new int[] {MIN, -1, 601, MAX}) {
             is.due("inTime: no such lodger", x.inTime(k, 5), BAD);
             is.due("inTime: no such m", x.inTime(0, k), BAD);
@@ -570,6 +582,8 @@ public final class PromiseTest {
         is.due("rooms: least together", y.rooms(-1), 1);
         is.due("rooms: the one in room 1", y.rooms(0), 1);
         is.due("rooms: the one in room 0", y.rooms(1), 0);
+        is.due("rooms: one alone", house("d0,1,0;l2,5,0;").rooms(-1), 0);
+        is.due("rooms: one alone", house("d0,1,0;l2,5,0;").rooms(0), 0);
         DoorsThatRemember many = house("r2;d0,1,0;l0,1,0;l0,1,0;l0,1,0;");
         is.due("rooms: more lodgers than rooms", many.rooms(-1), NONE);
         is.due("rooms: more lodgers than rooms", many.rooms(2), NONE);
@@ -693,6 +707,8 @@ public final class PromiseTest {
         is.due("how: 99 at most", x.how(1, 1, 5, 100, 0), 16);
         is.due("how: the last one", x.how(1, 1, 5, 100, 1), 1);
         is.due("how: 8 times gently", x.how(0, 0, 8, 1, 1), 0);
+        is.due("how: 8 times slammed", x.how(0, 0, 8, 45, 0), 1);
+        is.due("how: 8 times slammed", x.how(0, 0, 8, 45, 1), 8);
         x.oil(0);
         x.go(0, 0, true);
         x.night(3);
@@ -731,6 +747,7 @@ public final class PromiseTest {
         is.due("fresh: behind a night", x.fresh(0), 97);
         DoorsThatRemember last = house("d0,1,0;d1,2,1;d0,2,2;l0,5,2;g0,0,2;g1,0,3;g2,0,1;");
         is.due("fresh: the last one", last.fresh(-1), 2);
+        is.due("fresh: the first one", house("d0,1,0;d1,2,1;l0,5,2;g1,0,3;").fresh(-1), 0);
         for (int d : new int[] {MIN, -2, 3, 8, MAX}) {
             is.due("fresh: no such", x.fresh(d), BAD);
         }
