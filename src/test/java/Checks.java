@@ -1,7 +1,5 @@
 /** What the tests share: counting what is as due, and telling a text to an object. */
 final class Checks {
-    static final int BAD = -1, NO = -2, FULL = -3, NONE = -4;
-
     private int passed;
     private int failed;
 
